@@ -123,6 +123,7 @@ public final class TownTest {
         x.cry(7, 0, 1);
         x.month();
         x.cry(7, 0, 1);
+        x.keep(0);
         x.keep(1);
         x.keepIn(2, true);
         x.move(2, 0);
@@ -141,6 +142,7 @@ public final class TownTest {
             check.due("another town: told(" + what + ")", x.told(what), what == 6 ? NONE : 0);
         }
         check.due("another town: place of 2", x.hearer(2, 0), 0);
+        check.due("another town: goBack(0)", x.goBack(0), NOT);
         check.due("another town: goBack(1)", x.goBack(1), NOT);
         check.due("another town: undo(1)", x.undo(1), NOT);
         check.due("another town: seed stays", x.seed(5), 5);
@@ -167,8 +169,12 @@ public final class TownTest {
         check.due("town at fault: goBack(1)", x.goBack(1), 1);
         check.due("town at fault: seed", x.seed(0), 5);
         Check.feed(x, "t1;");
-        x.town();
-        check.due("fault after a good text", x.fault(), NONE);
+        check.due("a good text after a fault", x.town(), 0);
+        check.due("its fault", x.fault(), NONE);
+        check.due("its clauses", x.told(0), 1);
+        Check.feed(x, "t1");
+        check.due("the end of a shorter text", x.town(), -11);
+        check.due("its letter", x.fault(), 2);
     }
 
     private static void emptyText() {

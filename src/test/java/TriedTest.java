@@ -170,6 +170,12 @@ public final class TriedTest {
         cold.cry(1, 0, 1);
         check.due("cold: no holding", cold.would(1, 0, 1, 1), 0);
         check.due("cold: liar", cold.hired(1, 0, 1, 0), 4);
+        // A hoarse one and the liar at corner 1 strike different clauses: the greater set costs less.
+        GainsaidOnce either = Check.told("t7;c9 0;c1 1;h1 6 8;h0 2 8;");
+        either.cry(4, 1, 1);
+        check.due("either: the dear one", either.would(3, 1, 1, 1), 2);
+        check.due("either: how much", either.hired(3, 1, 1, 0), 1);
+        check.due("either: the set", either.hired(3, 1, 1, 1), 2);
         // Both with and without him it holds, for nothing: the least set.
         GainsaidOnce free = Check.told("t7;c0 1;h0 1 8;");
         free.cry(1, 0, 1);
