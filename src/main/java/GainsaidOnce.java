@@ -41,7 +41,7 @@ public final class GainsaidOnce {
     private final Crier crier;
     private final Trials trials;
     private final Witnesses witnesses;
-    private final Book book;
+    private final Row book;
     private final Draws draws;
     private int faultLetter;
 
@@ -55,7 +55,7 @@ public final class GainsaidOnce {
         crier = new Crier(ring, now);
         trials = new Trials(ring, now, crier);
         witnesses = new Witnesses(ring, crier);
-        book = new Book();
+        book = new Row(MOST_ENTRIES);
         draws = new Draws();
         faultLetter = NONE;
     }
@@ -66,13 +66,13 @@ public final class GainsaidOnce {
         if (letter < 0 || letter > 255) {
             return OUTSIDE;
         }
-        return reader.add(letter);
+        return reader.letters.add(letter);
     }
 
     public int town() {
         int number = reader.readInto(draft);
-        faultLetter = reader.faultLetter();
-        reader.empty();
+        faultLetter = reader.faultAt;
+        reader.letters.clear();
         if (number != 0) {
             return -10 - number;
         }
@@ -81,7 +81,7 @@ public final class GainsaidOnce {
         past.forget();
         forgetImages();
         witnesses.forget();
-        book.forget();
+        book.clear();
         return ring.corners;
     }
 
@@ -94,7 +94,7 @@ public final class GainsaidOnce {
             case 0: return ring.clauses;
             case 1: return ring.corners;
             case 2: return ring.hearers;
-            case 3: return reader.letterCount();
+            case 3: return reader.letters.count;
             case 4: return now.rounds;
             case 5: return now.months;
             case 6: return now.law;
@@ -102,9 +102,9 @@ public final class GainsaidOnce {
             case 8: return now.hoarse;
             case 9: return now.keptIn;
             case 10: return now.colds;
-            case 11: return witnesses.count();
-            case 12: return book.count();
-            case 13: return past.count();
+            case 11: return witnesses.decrees.count;
+            case 12: return book.count;
+            case 13: return past.count;
             default: return OUTSIDE;
         }
     }
@@ -213,7 +213,7 @@ public final class GainsaidOnce {
         if (n < 1 || n > MOST_DEEDS) {
             return OUTSIDE;
         }
-        if (n > past.count()) {
+        if (n > past.count) {
             return NOT;
         }
         past.takeBack(n, now);
@@ -254,13 +254,14 @@ public final class GainsaidOnce {
         if (refusal != 0) {
             return refusal;
         }
+        trials.gatherBeginnings(law, k, way);
         if (i == HOW_MANY) {
-            return trials.countBeginnings(law, k, way);
+            return trials.beginnings.count;
         }
         if (i == IN_SHORT) {
-            return trials.sureOfBeginnings(law, k, way);
+            return trials.sureClauses();
         }
-        return trials.beginning(law, k, way, i);
+        return trials.beginnings.get(i);
     }
 
     public int passed() {
@@ -318,12 +319,12 @@ public final class GainsaidOnce {
     public int behind(int i) {
         witnesses.gatherSuspects();
         if (i == HOW_MANY) {
-            return witnesses.suspectCount();
+            return witnesses.suspects.count;
         }
         if (i == IN_SHORT) {
             return witnesses.bestParting();
         }
-        return witnesses.suspects(i);
+        return witnesses.suspects.get(i);
     }
 
     public int write(int law) {
@@ -334,13 +335,18 @@ public final class GainsaidOnce {
     }
 
     public int judge() {
-        return book.firstOtherThan(now.law);
+        for (int i = 0; i < book.count; i++) {
+            if (book.get(i) != now.law) {
+                return i;
+            }
+        }
+        return NONE;
     }
 
     public int tear() {
-        int both = witnesses.count() + book.count();
+        int both = witnesses.decrees.count + book.count;
         witnesses.forget();
-        book.forget();
+        book.clear();
         return both;
     }
 
@@ -535,32 +541,10 @@ public final class GainsaidOnce {
 
     /** The text, letter by letter, and how it is read. */
     private static final class Reader {
-        private final int[] letters = new int[MOST_LETTERS];
-        private int length;
+        private final Row letters = new Row(MOST_LETTERS);
         private int here;
         private int faultNumber;
         private int faultAt = NONE;
-
-        int add(int letter) {
-            if (length >= MOST_LETTERS) {
-                return FULL;
-            }
-            put(letters, length, letter);
-            length++;
-            return length;
-        }
-
-        void empty() {
-            length = 0;
-        }
-
-        int letterCount() {
-            return length;
-        }
-
-        int faultLetter() {
-            return faultAt;
-        }
 
         int readInto(Town draft) {
             here = 0;
@@ -568,7 +552,7 @@ public final class GainsaidOnce {
             faultAt = NONE;
             draft.clear();
             skipBlanks();
-            for (int n = 0; n < MOST_LETTERS && here < length && faultNumber == 0; n++) {
+            for (int n = 0; n < MOST_LETTERS && here < letters.count && faultNumber == 0; n++) {
                 readClause(draft);
                 skipBlanks();
             }
@@ -663,8 +647,9 @@ public final class GainsaidOnce {
             }
         }
 
+        /** The end of the text is no letter: NONE. */
         private int letterHere() {
-            return here < length ? at(letters, here) : NONE;
+            return letters.get(here);
         }
 
         private static boolean isFigure(int letter) {
@@ -829,6 +814,7 @@ public final class GainsaidOnce {
         private final Town ring;
         private final State now;
         private final Crier crier;
+        private final Row beginnings = new Row(ALL_DECREES);
 
         Trials(Town ring, State now, Crier crier) {
             this.ring = ring;
@@ -855,39 +841,21 @@ public final class GainsaidOnce {
             return found / STARTS;
         }
 
-        int countBeginnings(int law, int k, int way) {
-            int count = 0;
+        void gatherBeginnings(int law, int k, int way) {
+            beginnings.clear();
             for (int decree = 0; decree < ALL_DECREES; decree++) {
                 if (isBeginning(decree, law, k, way)) {
-                    count++;
+                    beginnings.add(decree);
                 }
             }
-            return count;
         }
 
-        int sureOfBeginnings(int law, int k, int way) {
-            int sure = ring.clauses;
-            boolean isAny = false;
-            for (int decree = 0; decree < ALL_DECREES; decree++) {
-                if (isBeginning(decree, law, k, way)) {
-                    sure &= decree;
-                    isAny = true;
-                }
+        int sureClauses() {
+            int sure = beginnings.count == 0 ? 0 : ring.clauses;
+            for (int i = 0; i < beginnings.count; i++) {
+                sure &= beginnings.get(i);
             }
-            return isAny ? sure : 0;
-        }
-
-        int beginning(int law, int k, int way, int i) {
-            int count = 0;
-            for (int decree = 0; decree < ALL_DECREES; decree++) {
-                if (isBeginning(decree, law, k, way)) {
-                    if (count == i) {
-                        return decree;
-                    }
-                    count++;
-                }
-            }
-            return NONE;
+            return sure;
         }
 
         int passableCorners() {
@@ -983,10 +951,6 @@ public final class GainsaidOnce {
             }
         }
 
-        int count() {
-            return count;
-        }
-
         void forget() {
             count = 0;
         }
@@ -1034,12 +998,10 @@ public final class GainsaidOnce {
     private static final class Witnesses {
         private final Town ring;
         private final Crier crier;
-        private final int[] decrees = new int[MOST_SEEN];
-        private final int[] corners = new int[MOST_SEEN];
-        private final int[] voices = new int[MOST_SEEN];
-        private final int[] suspectSets = new int[FEW.length];
-        private int count;
-        private int suspectCount;
+        private final Row decrees = new Row(MOST_SEEN);
+        private final Row corners = new Row(MOST_SEEN);
+        private final Row voices = new Row(MOST_SEEN);
+        private final Row suspects = new Row(FEW.length);
 
         Witnesses(Town ring, Crier crier) {
             this.ring = ring;
@@ -1047,48 +1009,32 @@ public final class GainsaidOnce {
         }
 
         int add(int decree, int k, int spoke) {
-            if (count >= MOST_SEEN) {
-                return FULL;
-            }
-            put(decrees, count, decree);
-            put(corners, count, k);
-            put(voices, count, spoke);
-            count++;
-            return count;
-        }
-
-        int count() {
-            return count;
+            corners.add(k);
+            voices.add(spoke);
+            return decrees.add(decree);
         }
 
         void forget() {
-            count = 0;
+            decrees.clear();
+            corners.clear();
+            voices.clear();
         }
 
         void gatherSuspects() {
-            suspectCount = 0;
+            suspects.clear();
             for (int i = 0; i < FEW.length; i++) {
                 if (crier.canKeepIn(FEW[i]) && explainsAll(FEW[i])) {
-                    put(suspectSets, suspectCount, FEW[i]);
-                    suspectCount++;
+                    suspects.add(FEW[i]);
                 }
             }
         }
 
-        int suspectCount() {
-            return suspectCount;
-        }
-
-        int suspects(int i) {
-            return i >= 0 && i < suspectCount ? at(suspectSets, i) : NONE;
-        }
-
         int bestParting() {
             int best = NONE;
-            int least = suspectCount;
+            int least = suspects.count;
             for (int h = 0; h < ring.hearers; h++) {
                 int with = countWith(h);
-                int greatest = Math.max(with, suspectCount - with);
+                int greatest = Math.max(with, suspects.count - with);
                 if (greatest < least) {
                     least = greatest;
                     best = h;
@@ -1099,17 +1045,17 @@ public final class GainsaidOnce {
 
         private int countWith(int h) {
             int with = 0;
-            for (int i = 0; i < suspectCount; i++) {
-                with += bit(at(suspectSets, i), h);
+            for (int i = 0; i < suspects.count; i++) {
+                with += bit(suspects.get(i), h);
             }
             return with;
         }
 
         private boolean explainsAll(int keptBesides) {
-            for (int i = 0; i < count; i++) {
-                crier.start(at(decrees, i), keptBesides, 0);
-                crier.readAt(at(corners, i));
-                if (crier.spoke != at(voices, i)) {
+            for (int i = 0; i < decrees.count; i++) {
+                crier.start(decrees.get(i), keptBesides, 0);
+                crier.readAt(corners.get(i));
+                if (crier.spoke != voices.get(i)) {
                     return false;
                 }
             }
@@ -1117,35 +1063,30 @@ public final class GainsaidOnce {
         }
     }
 
-    /** The laws that somebody wrote down. */
-    private static final class Book {
-        private final int[] laws = new int[MOST_ENTRIES];
+    /** Numbers as they came, so many at most. */
+    private static final class Row {
+        private final int[] items;
         private int count;
 
-        int add(int law) {
-            if (count >= MOST_ENTRIES) {
+        Row(int most) {
+            items = new int[Math.max(most, 0)];
+        }
+
+        int add(int item) {
+            if (count < 0 || count >= items.length) {
                 return FULL;
             }
-            put(laws, count, law);
+            items[count] = item;
             count++;
             return count;
         }
 
-        int count() {
-            return count;
+        int get(int i) {
+            return i >= 0 && i < count && i < items.length ? items[i] : NONE;
         }
 
-        void forget() {
+        void clear() {
             count = 0;
-        }
-
-        int firstOtherThan(int law) {
-            for (int i = 0; i < count; i++) {
-                if (at(laws, i) != law) {
-                    return i;
-                }
-            }
-            return NONE;
         }
     }
 

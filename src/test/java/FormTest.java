@@ -143,11 +143,11 @@ public final class FormTest {
         GainsaidOnce x = Check.told("t255;c1 1;c1 1;c1 1;c1 1;c1 1;h0 15 0;h1 255 1;h2 255 2;h3 255 3;h4 7 4;h0 1 8;");
         askAll(x);
         long before = threads.getThreadAllocatedBytes(Thread.currentThread().getId());
-        for (int i = 0; i < 200; i++) {
+        for (int i = 0; i < 2000; i++) {
             askAll(x);
         }
         long made = threads.getThreadAllocatedBytes(Thread.currentThread().getId()) - before;
-        check.holds("calls make nothing: " + made, made < 4096);
+        check.holds("calls make nothing: " + made, made < 16384);
     }
 
     private static void askAll(GainsaidOnce x) {
