@@ -15,6 +15,7 @@ public final class TownTest {
         newObject();
         feedCounts();
         townOfText();
+        smallerTown();
         townForgets();
         townFaultChangesNothing();
         emptyText();
@@ -115,6 +116,18 @@ public final class TownTest {
         check.due("hearers by turns", x.told(2), 3);
         check.due("who stands at 0", x.corner(0, 2), 5);
         check.due("who stands at 1", x.corner(1, 2), 2);
+    }
+
+    private static void smallerTown() {
+        GainsaidOnce x = Check.told("t255;c7 1;c8 1;h0 255 8;h0 255 8;h0 255 8;");
+        Check.feed(x, "t255;c5 0;h0 255 8;");
+        check.due("a smaller town", x.town(), 1);
+        check.due("one speaks there", x.would(255, 0, 1, 2), 1);
+        check.due("who stands there", x.corner(0, 2), 1);
+        check.due("no second hearer", x.hearer(1, 0), UNKNOWN);
+        check.due("no second corner", x.corner(1, 0), UNKNOWN);
+        check.due("no second one kept in", x.behind(-1), 2);
+        check.due("no cold", x.told(10), 0);
     }
 
     private static GainsaidOnce busy() {
