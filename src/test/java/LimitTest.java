@@ -21,6 +21,7 @@ public final class LimitTest {
         passedByNoneAndAll();
         passedAtOneCorner();
         hiredByNoneAndAll();
+        hiredForLeastBeer();
         hiredForNothing();
         hiredWithoutAny();
         liarIsNeverHoarse();
@@ -46,6 +47,7 @@ public final class LimitTest {
         thirtyCanBeUndone();
         undoAsManyAsThereAre();
         undoSinceTextOrImage();
+        undoOfEachDeed();
         undoOfMonthsByDraws();
         imagesZeroAndOne();
         check.end();
@@ -208,13 +210,26 @@ public final class LimitTest {
         }
     }
 
-    /** "for least BEER together; of like ones the least SET". */
+    /**
+     * "for least BEER together; of like ones the least SET of CORNERS": from corner 1 up either a liar there strikes
+     * clause 0, and a hearer at 0 speaks, or a hoarse one strikes clause 1, and a liar at 0 is needed.
+     */
+    private static void hiredForLeastBeer() {
+        int[] beers = {0, 1, 2, 50, 98, 99};
+        for (int a : beers) {
+            for (int b : beers) {
+                GainsaidOnce x = Check.told("t7;c" + a + " 0;c" + b + " 1;h1 6 8;h0 2 8;");
+                x.cry(4, 1, 1);
+                check.due("beer " + a + " or " + b + ": how much", x.hired(3, 1, 1, 0), Math.min(a, b));
+                check.due("beer " + a + " or " + b + ": the set", x.hired(3, 1, 1, 1), a <= b ? 1 : 2);
+            }
+        }
+    }
+
     private static void hiredForNothing() {
         hire("beer for nothing", Check.told("t3;c0 0;c0 0;"), 3, 0, 3);
         hire("none is less than one for nothing", Check.told("t1;c0 1;h0 1 8;"), 1, 0, 0);
-        // From corner 0 up: two at 0 make the opposite of it, with a liar the first has his way; both come to corner 1.
-        GainsaidOnce x = Check.told("t7;c1 0;c5 0;h0 1 1;h0 1 8;h1 2 8;");
-        hire("the liar at 0", x, 1, 1, 1);
+        hire("beside two", Check.told("t7;c0 0;c0 0;h0 1 1;h0 1 8;h1 2 8;"), 1, 0, 1);
     }
 
     private static void hiredWithoutAny() {
@@ -284,6 +299,14 @@ public final class LimitTest {
         check.due("and they still are so", x.behind(-1), 1);
         check.due("torn", x.tear(), 6);
         check.due("a first again", x.see(1, 0, 0), 1);
+        GainsaidOnce y = Check.told("t1;c0 0;c0 0;h1 1 8;");
+        for (int n = 1; n <= 6; n++) {
+            y.see(1, 0, 0);
+        }
+        y.tear();
+        y.see(1, 1, 1);
+        check.due("what was torn does not count", y.behind(-1), 1);
+        check.due("what is seen then does", y.behind(0), 0);
     }
 
     /** "and so many SPOKE (0 .. 9)": nine of nine, and each number below. */
@@ -570,6 +593,45 @@ public final class LimitTest {
         x.month();
         x.town();
         check.due("a text at fault forgets nothing", x.told(13), 1);
+    }
+
+    /** "the latest deeds (cry(), month(), keepIn(), move(), cold() ..)", though they change nothing; no other calls. */
+    private static void undoOfEachDeed() {
+        GainsaidOnce x = Check.told("t3;c0 0;c0 1;h0 1 1;h1 2 8;");
+        x.cry(1, 0, 1);
+        check.due("cry", x.told(13), 1);
+        x.month();
+        check.due("month", x.told(13), 2);
+        x.keepIn(0, true);
+        check.due("keepIn", x.told(13), 3);
+        x.keepIn(0, true);
+        check.due("keepIn again", x.told(13), 4);
+        x.move(1, 0);
+        check.due("move", x.told(13), 5);
+        x.move(1, 0);
+        check.due("move again", x.told(13), 6);
+        x.cold(1, false);
+        check.due("cold", x.told(13), 7);
+        x.cold(1, false);
+        check.due("cold again", x.told(13), 8);
+        x.see(1, 0, 0);
+        x.write(1);
+        x.tear();
+        x.seed(1);
+        x.would(1, 0, 0, 0);
+        x.feed('t');
+        check.due("no deeds", x.told(13), 8);
+        int[][] due = {{1, 1, 0, 1, 0}, {1, 1, 0, 1, 2}, {1, 1, 0, 1, 2}, {1, 1, 1, 1, 2}, {1, 1, 1, 1, 2},
+            {1, 1, 1, 0, 2}, {1, 0, 1, 0, 2}, {0, 0, 1, 0, 2}};
+        for (int n = 0; n < due.length; n++) {
+            check.due("undone " + n, x.undo(1), due[n][0]);
+            check.due("undone " + n + ": months", x.told(5), due[n][1]);
+            check.due("undone " + n + ": place", x.hearer(1, 0), due[n][2]);
+            check.due("undone " + n + ": kept in", x.told(9), due[n][3]);
+            check.due("undone " + n + ": colds", x.told(10), due[n][4]);
+        }
+        check.due("no law", x.told(6), NONE);
+        check.due("nobody hoarse", x.told(8), 0);
     }
 
     /** "each month BY DRAWS" is a deed; "THE SEED stays". */

@@ -34,6 +34,7 @@ public final class TextEdgeTest {
         ofTheseTheLeast();
         theEndAtTheLength();
         emptyText();
+        townBeginsAnew();
         textIsEmptyThen();
         faultOfTheLatest();
         check.end();
@@ -439,6 +440,35 @@ public final class TextEdgeTest {
         check.due("no town: the seed stays", y.seed(3), 3);
         GainsaidOnce z = Check.told("t7;");
         check.due("a town without corners", z.month(), 0);
+    }
+
+    /** "(no ROUNDS, nobody HOARSE, KEPT IN; nothing SEEN, no BOOK; IMAGES, what could be undone are gone; ..)". */
+    private static void townBeginsAnew() {
+        String text = "t7;c1 1;c1 0;h0 1 8;h1 2 8;";
+        GainsaidOnce x = Check.told(text);
+        x.seed(3);
+        x.keep(0);
+        x.keep(1);
+        x.cry(7, 0, 1);
+        x.month();
+        x.cry(1, 0, 1);
+        x.keepIn(1, true);
+        x.move(1, 0);
+        x.cold(0, false);
+        x.cold(1, true);
+        x.see(7, 0, 1);
+        x.write(7);
+        Check.feed(x, text);
+        check.due("the same town", x.town(), 2);
+        int[] due = {7, 2, 2, 0, 0, 0, NONE, 0, 0, 0, 1, 0, 0, 0};
+        for (int what = 0; what <= 13; what++) {
+            check.due("the same town: told(" + what + ")", x.told(what), due[what]);
+        }
+        check.due("he stands where he was told", x.hearer(1, 0), 1);
+        check.due("image 0 is gone", x.goBack(0), NOT);
+        check.due("image 1 is gone", x.goBack(1), NOT);
+        check.due("nothing can be undone", x.undo(1), NOT);
+        check.due("the seed stays", x.seed(0), 3);
     }
 
     /** "THE TEXT (it is empty then, with a FAULT, too)". */
