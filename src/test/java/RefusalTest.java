@@ -4,7 +4,7 @@ import java.util.function.ToIntFunction;
 /**
  * "REFUSALS, of several the first in this order: UNKNOWN, OUTSIDE, NOT, FULL. What is refused changes nothing."
  * Each refusal of each promise: the numbers just beside its bounds and the farthest ones, with twins that show
- * that nothing changed.
+ * that nothing changed; and calls that are not refused, but change nothing either.
  */
 public final class RefusalTest {
     private static final int UNKNOWN = GainsaidOnce.UNKNOWN;
@@ -26,6 +26,7 @@ public final class RefusalTest {
 
     public static void main(String[] args) {
         theOrderOfTheNumbers();
+        someOfAll();
         feed();
         townAtFault();
         told();
@@ -49,6 +50,8 @@ public final class RefusalTest {
         seed();
         keep();
         goBack();
+        triedChangesNothing();
+        askedChangesNothing();
         check.end();
     }
 
@@ -65,7 +68,8 @@ public final class RefusalTest {
         x.keepIn(2, true);
         x.move(4, 2);
         x.cold(0, true);
-        x.cry(97, 2, 0);
+        x.month();
+        x.cry(4, 2, 0);
         x.see(1, 0, 1);
         x.see(32, 2, 0);
         x.write(x.told(6));
@@ -136,6 +140,15 @@ public final class RefusalTest {
     private static void refusedByNew(String call, ToIntFunction<GainsaidOnce> how, int due) {
         Supplier<GainsaidOnce> made = GainsaidOnce::new;
         twins.refused("new object: " + call, made, how, due);
+    }
+
+    /** An object in which nothing is at stake would show nothing. */
+    private static void someOfAll() {
+        GainsaidOnce x = busy();
+        int[] due = {127, 3, 5, 2, 4, 2, 16, 2, 2, 12, 3, 2, 2, 7};
+        for (int what = 0; what < due.length; what++) {
+            check.due("busy: told(" + what + ")", x.told(what), due[what]);
+        }
     }
 
     /** "They are far below all that is counted: -1000000001 and on." */
@@ -458,5 +471,40 @@ public final class RefusalTest {
         refused("goBack(0)", x -> x.goBack(0), NOT);
         refusedByNew("goBack(0)", x -> x.goBack(0), NOT);
         refusedByNew("goBack(1)", x -> x.goBack(1), NOT);
+    }
+
+    private static void asked(String call, ToIntFunction<GainsaidOnce> how) {
+        twins.asked(call, RefusalTest::busy, how);
+        twins.asked("six seen: " + call, RefusalTest::allSeen, how);
+    }
+
+    /** "TRIED from now; nothing changes by it." */
+    private static void triedChangesNothing() {
+        for (int n = 0; n < 12; n++) {
+            int decree = n % 3 == 0 ? 127 : 1 << n % 7;
+            int k = n % 3;
+            int way = n % 2;
+            int months = 5 * n;
+            asked("would " + n, x -> x.would(decree, k, way, k));
+            asked("bestRound " + n, x -> x.bestRound(decree, k, way));
+            asked("began " + n, x -> x.began(decree, k, way, k - 2));
+            asked("hired " + n, x -> x.hired(decree, k, way, k % 2));
+            asked("spoilt " + n, x -> x.spoilt(decree, k, way, k % 2));
+            asked("odds " + n, x -> x.odds(months, months + 1));
+            asked("behind " + n, x -> x.behind(k - 2));
+        }
+        asked("passed", x -> x.passed());
+        asked("judge", x -> x.judge());
+    }
+
+    /** What is told of the town changes nothing either. */
+    private static void askedChangesNothing() {
+        for (int n = 0; n < 14; n++) {
+            int what = n;
+            asked("told(" + n + ")", x -> x.told(what));
+            asked("hearer " + n, x -> x.hearer(what % 5, what % 4));
+            asked("corner " + n, x -> x.corner(what % 3, what / 5));
+        }
+        asked("fault", x -> x.fault());
     }
 }

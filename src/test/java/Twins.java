@@ -4,8 +4,8 @@ import java.util.function.Supplier;
 import java.util.function.ToIntFunction;
 
 /**
- * Two objects made alike: one of them is refused something, then both are asked the same, so that
- * whatever the refused call changed shows itself. No object comes to more than its 512 calls by it.
+ * Two objects made alike: one of them is refused or asked something, then both are asked the same, so that
+ * whatever that call changed shows itself. No object comes to more than its 512 calls by it.
  */
 final class Twins {
     private final Check check;
@@ -17,6 +17,15 @@ final class Twins {
     void refused(String call, Supplier<GainsaidOnce> made, ToIntFunction<GainsaidOnce> refused, int due) {
         GainsaidOnce asked = made.get();
         check.due(call, refused.applyAsInt(asked), due);
+        compare(call, askAll(asked), askAll(made.get()));
+    }
+
+    /** For calls that answer something and change nothing by it. */
+    void asked(String call, Supplier<GainsaidOnce> made, ToIntFunction<GainsaidOnce> ask) {
+        GainsaidOnce asked = made.get();
+        int answer = ask.applyAsInt(asked);
+        check.holds(call + " is answered", answer > GainsaidOnce.UNKNOWN);
+        check.due(call + " again", ask.applyAsInt(asked), answer);
         compare(call, askAll(asked), askAll(made.get()));
     }
 
