@@ -16,6 +16,7 @@ public final class LimitTest {
         bestRoundAtTheLastCorner();
         bestRoundWithoutAny();
         beganCounts();
+        beganPastTheLast();
         beganWithoutAny();
         beganOfEverySet();
         passedByNoneAndAll();
@@ -135,6 +136,24 @@ public final class LimitTest {
         check.due("sure", x.began(170, 0, 0, -2), 170);
         check.due("sure of nothing", x.began(0, 0, 0, -2), 0);
         check.due("sure of all but one", x.began(254, 0, 0, -2), 254);
+    }
+
+    /** "else the i-th; NONE": there are no more than fit now, though more did for the law asked ahead of it. */
+    private static void beganPastTheLast() {
+        // One at each corner strikes the least clause, so that nothing is left of eight.
+        GainsaidOnce all = Check.told("t255;" + "c0 0;".repeat(8) + "h0 255 8;h1 255 8;h2 255 8;h3 255 8;"
+            + "h4 255 8;h5 255 8;h6 255 8;h7 255 8;");
+        check.due("all come out as none", all.began(0, 0, 1, -1), 256);
+        check.due("the last of all", all.began(0, 0, 1, 255), 255);
+        all.keepIn(0, true);
+        check.due("seven leave one clause of all eight", all.began(0, 0, 1, -1), 255);
+        for (int i = 255; i <= 260; i++) {
+            check.due("as none, the " + i, all.began(0, 0, 1, i), NONE);
+        }
+        check.due("as the last clause: the first and only", all.began(128, 0, 1, 0), 255);
+        for (int i = 1; i <= 260; i++) {
+            check.due("as the last clause, the " + i, all.began(128, 0, 1, i), NONE);
+        }
     }
 
     /** "SURE: (0 without any)". */
@@ -350,7 +369,9 @@ public final class LimitTest {
         x.see(1, 0, 7);
         check.due("of two alone: the first", x.behind(0), 3);
         check.due("of two alone: the last", x.behind(35), 384);
-        check.due("of two alone: behind the last", x.behind(36), NONE);
+        for (int i = 36; i <= 50; i++) {
+            check.due("of two alone: behind the last, " + i, x.behind(i), NONE);
+        }
         GainsaidOnce none = new GainsaidOnce();
         check.due("no town: how many", none.behind(-1), 1);
         check.due("no town: the first", none.behind(0), 0);

@@ -24,6 +24,7 @@ public final class TextEdgeTest {
         figures();
         aWordIsOneLetter();
         blanksAnywhere();
+        blanksAlone();
         blanksWithinNumbers();
         twoNumbersNeedABlank();
         onlyThirtyTwoIsABlank();
@@ -287,6 +288,17 @@ public final class TextEdgeTest {
                 check.due("cold", x.corner(0, 1), 1);
                 check.due("P", x.hearer(0, 1), 3);
             }
+        }
+    }
+
+    /** Blanks alone tell nothing, so they are taken as an empty text, as many as there be. */
+    private static void blanksAlone() {
+        for (int n : new int[] {1, 2, LETTERS - 1, LETTERS}) {
+            GainsaidOnce x = Check.told("t7;c1 1;");
+            Check.feed(x, " ".repeat(n));
+            check.due(n + " blanks: town", x.town(), 0);
+            check.due(n + " blanks: fault", x.fault(), NONE);
+            check.due(n + " blanks: no town", x.month(), NOT);
         }
     }
 
